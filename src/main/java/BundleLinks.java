@@ -85,8 +85,11 @@ public final class BundleLinks {
 
     public int tick(int n) {
         if (!isWithin(n, 0, MAX_TICKS)) return OUTSIDE;
-        traffic.run(n);
-        return traffic.time;
+        int end = traffic.time + n;
+        for (int done = 0; done < n && traffic.isBusy(); done++) traffic.passTick();
+        // Once nothing is busy only time passes, however many ticks are left.
+        traffic.time = end;
+        return end;
     }
 
     public int move(int bucket, int link, int how) {
@@ -361,11 +364,11 @@ public final class BundleLinks {
         final int[] inOrderOut = new int[LETTERS];
         final int[] inState = new int[STATES];
 
-        int add(int ofFlow, int atPlace, int inBucket, int time) {
+        int add(int itsFlow, int itsPlace, int itsBucket, int time) {
             int i = count;
-            flow[i] = ofFlow;
-            place[i] = atPlace;
-            bucket[i] = inBucket;
+            flow[i] = itsFlow;
+            place[i] = itsPlace;
+            bucket[i] = itsBucket;
             state[i] = HELD;
             link[i] = NONE;
             sentAt[i] = time;
@@ -430,18 +433,12 @@ public final class BundleLinks {
             letters.turn(i, QUEUED);
         }
 
-        void run(int ticks) {
-            for (int done = 0; done < ticks; done++) {
-                // Only time passes while nothing is underway, however many ticks are left.
-                if (!letters.isAnyUnderway() && !buckets.isAnyUnsettled()) {
-                    time += ticks - done;
-                    return;
-                }
-                passTick();
-            }
+        /** Whether a tick could change more than the time. */
+        boolean isBusy() {
+            return letters.isAnyUnderway() || buckets.isAnyUnsettled();
         }
 
-        private void passTick() {
+        void passTick() {
             time++;
             for (int l = 0; l < links.count; l++) {
                 if (links.up[l]) leave(l);
@@ -565,7 +562,11 @@ public final class BundleLinks {
                 if (buckets.to[b] == l) cancelMove(b);
             }
             for (int b = 0; b < BUCKETS; b++) {
-                if (buckets.on[b] == l) moveAway(b);
+                if (buckets.on[b] != l) continue;
+                buckets.to[b] = NONE;
+                buckets.on[b] = upLinkWithFewestBuckets();
+                buckets.holds[b] = buckets.on[b] != NONE;
+                settle(b);
             }
             return lost;
         }
@@ -582,13 +583,6 @@ public final class BundleLinks {
             links.wayStart[l] = end;
             links.queueStart[l] = end;
             return end - start;
-        }
-
-        private void moveAway(int b) {
-            buckets.to[b] = NONE;
-            buckets.on[b] = upLinkWithFewestBuckets();
-            buckets.holds[b] = buckets.on[b] != NONE;
-            settle(b);
         }
 
         private int upLinkWithFewestBuckets() {
@@ -625,11 +619,13 @@ public final class BundleLinks {
         private final Buckets buckets;
         private final Flows flows;
         private final int[] weight = new int[BUCKETS];
+        /** Loads of the plan in trial; all 0 between searches, as each step takes back what it adds. */
         private final int[] load = new int[LINKS];
         private final int[] trial = new int[BUCKETS];
         private int allSpeeds;
         private int allLoads;
         private int evenness;
+        private int fewest;
 
         Planner(Links links, Buckets buckets, Flows flows) {
             this.links = links;
@@ -672,39 +668,46 @@ public final class BundleLinks {
         int fewestMoves(int k) {
             measure(k);
             for (int b = 0; b < BUCKETS; b++) weight[b] = flows.rateOfBucket(b);
-            for (int moves = 0; moves <= BUCKETS; moves++) {
-                for (int l = 0; l < LINKS; l++) load[l] = 0;
-                if (place(0, moves)) {
-                    System.arraycopy(trial, 0, latest, 0, BUCKETS);
-                    hasPlan = true;
-                    return moves;
-                }
-            }
-            return NONE;
+            fewest = BUCKETS + 1;
+            place(0, 0);
+            return fewest <= BUCKETS ? fewest : NONE;
         }
 
         /**
-         * Places bucket b and those behind it with so many moves at most; links are tried by
-         * numbers, so the first plan found has the lesser links first.
+         * Places bucket b and those behind it, after so many moves. Links are tried by numbers and
+         * only plans with fewer moves than the best are kept, so of equal ones the first stays:
+         * the one with the lesser links first.
          */
-        private boolean place(int b, int movesLeft) {
-            if (b >= BUCKETS) return true;
+        private void place(int b, int moves) {
+            if (b >= BUCKETS) {
+                keep(moves);
+                return;
+            }
             int from = buckets.on[b];
             // A bucket without load makes nothing more even by moving, so it is in no least plan.
             if (from == NONE || !links.up[from] || weight[b] == 0) {
-                trial[b] = from;
-                return place(b + 1, movesLeft);
+                placeOn(from, b, moves);
+                return;
             }
             for (int l = 0; l < links.count; l++) {
-                int movesThen = l == from ? movesLeft : movesLeft - 1;
-                if (!links.up[l] || movesThen < 0) continue;
+                int movesThen = l == from ? moves : moves + 1;
+                if (!links.up[l] || movesThen >= fewest) continue;
                 load[l] += weight[b];
-                trial[b] = l;
                 // Loads only grow from here, so a link above its share now stays above it.
-                if (isWithinShare(l, load[l]) && place(b + 1, movesThen)) return true;
+                if (isWithinShare(l, load[l])) placeOn(l, b, movesThen);
                 load[l] -= weight[b];
             }
-            return false;
+        }
+
+        private void placeOn(int l, int b, int moves) {
+            trial[b] = l;
+            place(b + 1, moves);
+        }
+
+        private void keep(int moves) {
+            fewest = moves;
+            System.arraycopy(trial, 0, latest, 0, BUCKETS);
+            hasPlan = true;
         }
     }
 }

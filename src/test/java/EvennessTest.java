@@ -8,6 +8,7 @@ public final class EvennessTest {
         promise21Refusals();
         promise22Least();
         promise22LesserLinksFirst();
+        promise22AllMove();
         promise22NoPlan();
         promise22LinksUpOnly();
         promise22Refusals();
@@ -108,6 +109,16 @@ public final class EvennessTest {
         x.move(1, 0, 0);
         Check.due("22 none goes", x.least(0), 0);
         Check.dueAll("22 as it is", Check.plan(x), 1, 0, 2, 0, 0, 0, 0, 0);
+    }
+
+    /** A slow link that may not have even one of eight like buckets. */
+    private static void promise22AllMove() {
+        BundleLinks x = withFlows(10, 10, 10, 10, 10, 10, 10, 10);
+        x.link(1, 1);
+        x.link(8, 1);
+        x.link(8, 1);
+        Check.due("22 all eight go", x.least(10), 8);
+        Check.dueAll("22 four to each", Check.plan(x), 1, 1, 1, 1, 2, 2, 2, 2);
     }
 
     private static void promise22NoPlan() {

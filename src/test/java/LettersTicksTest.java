@@ -14,10 +14,12 @@ public final class LettersTicksTest {
         promise10MoveAtOnce();
         promise10MoveHolding();
         promise10TheGapIsStrict();
+        promise10ThereWhenTheLastIsLost();
         promise10Refusals();
         promise10HeldOfSeveralBuckets();
         promise11Drop();
         promise12Fail();
+        promise12FailLosesOnlyWhatIsUnderway();
         promise12FailCancelsMovesThere();
         promise12FailWhileHolding();
         promise12FailedLast();
@@ -249,6 +251,25 @@ public final class LettersTicksTest {
         Check.due("10 apart", x.letter(1, 8) - x.letter(0, 8), 1);
     }
 
+    /** No letter is underway any more, but the bucket is asked only at a tick's end. */
+    private static void promise10ThereWhenTheLastIsLost() {
+        for (int how = 0; how < 2; how++) {
+            BundleLinks x = new BundleLinks();
+            x.link(1, 20);
+            x.link(1, 20);
+            x.link(1, 1);
+            x.flow(5);
+            x.send(0, 1);
+            x.tick(1);
+            Check.due("10 behind the first", x.move(0, 1, 0), 1);
+            Check.due("10 not before the first", x.move(0, 2, how), 0);
+            Check.due("10 the first is lost", x.fail(0), 1);
+            Check.due("10 not there until the tick", x.bucket(0, 0), 1);
+            x.tick(500);
+            Check.dueAll("10 there", Check.bucket(x, 0), 2, NONE, 0, 0, 5, 2);
+        }
+    }
+
     private static void promise10Refusals() {
         BundleLinks x = new BundleLinks();
         Check.due("10 no link", x.move(0, 0, 0), UNKNOWN);
@@ -354,6 +375,23 @@ public final class LettersTicksTest {
         for (int b = 0; b < 8; b++) {
             Check.dueAll("12 bucket " + b, Check.bucket(x, b), due[b], NONE, 0, 0, b == 0 ? 5 : 0, b == 3 ? 1 : 0);
         }
+    }
+
+    private static void promise12FailLosesOnlyWhatIsUnderway() {
+        BundleLinks x = new BundleLinks();
+        x.link(1, 2);
+        x.flow(5);
+        x.send(0, 5);
+        x.tick(4);
+        Check.due("12 two are out", x.told(8), 2);
+        Check.due("12 two on their way and one queued", x.fail(0), 3);
+        Check.due("12 two stay out", x.told(8), 2);
+        Check.due("12 three are lost", x.told(9), 3);
+        x.back(0);
+        x.send(0, 1);
+        Check.due("12 one more", x.fail(0), 1);
+        Check.due("12 four are lost", x.ofFlow(0, 4), 4);
+        Check.due("12 four left ever", x.about(0, 7), 4);
     }
 
     private static void promise12FailCancelsMovesThere() {

@@ -493,7 +493,9 @@ public final class BundleLinks {
         }
 
         private void letOut(int i) {
-            letters.inOrderOut[letters.inState[OUT]] = i;
+            int next = letters.inState[OUT];
+            if (next >= LETTERS) return;
+            letters.inOrderOut[next] = i;
             letters.turn(i, OUT);
             letters.endedAt[i] = time;
             flows.noteOut(letters.flow[i], letters.place[i]);

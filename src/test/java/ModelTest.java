@@ -28,7 +28,8 @@ public final class ModelTest {
 
     private void go() {
         begin();
-        while (calls < CALLS && same) {
+        // The dearest act asks for a plan too, and makes nine calls.
+        while (calls + 9 <= CALLS && same) {
             if (random.nextInt(3) == 0) ask();
             else act();
         }

@@ -56,27 +56,6 @@ final class Check {
         return all;
     }
 
-    /** All that the object tells, as one text: two of them are equal if a call between changed nothing. */
-    static String all(BundleLinks x) {
-        StringBuilder text = new StringBuilder();
-        add(text, told(x));
-        for (int l = 0; l < x.told(1); l++) add(text, about(x, l));
-        for (int b = 0; b < 8; b++) add(text, bucket(x, b));
-        for (int f = 0; f < x.told(2); f++) {
-            add(text, ofFlow(x, f));
-            add(text, x.ordered(f));
-        }
-        for (int i = 0; i < x.told(3); i++) add(text, letter(x, i));
-        for (int i = 0; i <= x.told(8); i++) add(text, x.out(i));
-        add(text, plan(x));
-        return text.toString();
-    }
-
-    private static void add(StringBuilder text, int... numbers) {
-        for (int number : numbers) text.append(number).append(' ');
-        text.append('\n');
-    }
-
     static void same(String what, String got, String want) {
         if (!got.equals(want)) {
             wrong++;

@@ -2,6 +2,7 @@
 public final class EdgesEvennessTest extends Calls {
     private static final Run NO_LINK = run(flow(10));
     private static final Run NONE_UP = run(link(1, 1), link(1, 1), flow(10), least(1000), fail(0), fail(1));
+    private static final Run FOUR_DOWN = linksAndFlows(4, 16).and(fail(3), fail(2), fail(1), fail(0));
     private static final Run TWO_LINKS = run(link(1, 1), link(1, 1), flow(40), flow(30), flow(20), flow(10));
 
     public static void main(String[] args) {
@@ -27,16 +28,17 @@ public final class EdgesEvennessTest extends Calls {
     private static void promise21Evenness() {
         TWO_LINKS.onlyTells(0, even(0), even(99));
         TWO_LINKS.onlyTells(1, even(100), even(1000));
-        for (Run x : new Run[] {run(), NO_LINK, NONE_UP, TWO_LINKS}) x.refuses(OUTSIDE, even(MIN), even(-1), even(1001), even(MAX));
+        for (Run x : new Run[] {run(), NO_LINK, NONE_UP, FOUR_DOWN, TWO_LINKS}) x.refuses(OUTSIDE, even(MIN), even(-1), even(1001), even(MAX));
     }
 
     /** STATE: no LINK is UP. */
     private static void promise21State() {
-        for (Run x : new Run[] {run(), NO_LINK, NONE_UP}) x.refuses(STATE, even(0), even(1000));
+        for (Run x : new Run[] {run(), NO_LINK, NONE_UP, FOUR_DOWN}) x.refuses(STATE, even(0), even(1000));
         NO_LINK.and(link(1, 1)).answers(1, even(0));
         NONE_UP.and(back(1)).answers(1, even(0));
         NONE_UP.and(back(1), back(0)).answers(0, even(99));
         NONE_UP.and(back(1), fail(1)).refuses(STATE, even(0));
+        for (int l = 0; l < 4; l++) FOUR_DOWN.and(back(l)).answers(1, even(0));
         run(link(1, 1)).answers(1, even(0));
     }
 
@@ -93,16 +95,17 @@ public final class EdgesEvennessTest extends Calls {
     }
 
     private static void promise22Evenness() {
-        for (Run x : new Run[] {run(), NO_LINK, NONE_UP, TWO_LINKS}) x.refuses(OUTSIDE, least(MIN), least(-1), least(1001), least(MAX));
+        for (Run x : new Run[] {run(), NO_LINK, NONE_UP, FOUR_DOWN, TWO_LINKS}) x.refuses(OUTSIDE, least(MIN), least(-1), least(1001), least(MAX));
         TWO_LINKS.answers(2, least(0));
         TWO_LINKS.answers(0, least(1000));
         TWO_LINKS.and(least(0)).refuses(OUTSIDE, least(-1), least(1001));
     }
 
     private static void promise22State() {
-        for (Run x : new Run[] {run(), NO_LINK, NONE_UP}) x.refuses(STATE, least(0), least(1000));
+        for (Run x : new Run[] {run(), NO_LINK, NONE_UP, FOUR_DOWN}) x.refuses(STATE, least(0), least(1000));
         NO_LINK.and(link(1, 1)).answers(0, least(0));
         NONE_UP.and(back(0)).answers(0, least(100));
+        for (int l = 0; l < 4; l++) FOUR_DOWN.and(back(l)).answers(0, least(0));
     }
 
     private static void promise22HowMany() {

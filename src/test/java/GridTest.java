@@ -21,6 +21,7 @@ public final class GridTest extends Calls {
             twoLinks.and(numbers(true), send(0, 2), move(0, 1, AT_ONCE), fail(1), send(0, 1)),
             linksAndFlows(4, 16).and(fail(2)).times(7, send(0, 50)).and(send(1, 49)),
             linksAndFlows(4, 16).times(8, send(1, 50)).and(tick(1), fail(0)),
+            linksAndFlows(4, 3).and(fail(0), fail(1), fail(2), fail(3), send(2, 1)),
             RefusalsTest.BUSY,
         };
         for (Run state : states) {

@@ -28,10 +28,19 @@ public final class ModelTest {
 
     private void go() {
         begin();
-        // The dearest act asks for a plan too, and makes nine calls.
-        while (calls + 9 <= CALLS && same) {
+        // The dearest act asks for a plan too, and makes nine calls; the last sixteen are for the flows.
+        while (calls + 9 + 16 <= CALLS && same) {
             if (random.nextInt(3) == 0) ask();
             else act();
+        }
+        if (same) inOrderAlways();
+    }
+
+    /** The document's first line: letters of a flow come out in order always. */
+    private void inOrderAlways() {
+        for (int f = 0; f < m.flows.size(); f++) {
+            due("ordered(" + f + ")", x.ordered(f), 1);
+            Check.due("run " + run + ", the model: ordered(" + f + ")", m.ordered(f), 1);
         }
     }
 
